@@ -190,7 +190,7 @@ final class TextTest {
         // The arm comes down on the vehicle at the tick 33, which leaves the cell 20 at the tick 38.
         leftOut("Glb0v012t33m0", 1, "1 33 1 0 0 0 1 1 1 0 3 12 2 | 1 3 0 48 1 1 0 0 : 12 27 0 0 1 ");
         leftOut("Glb0v012t37m0", 1, "1 37 1 0 0 0 1 1 1 0 3 12 2 | 1 3 0 48 1 1 0 0 : 12 31 0 0 1 ");
-        leftOut("Glb0v012t38m0", 0, "1 38 1 0 1 0 1 0 1 0 3 12 2 | 1 3 0 54 1 0 0 0 : 12 32 0 0 1 ".replace("54", "60"));
+        leftOut("Glb0v012t38m0", 0, "1 38 1 0 1 0 1 0 1 0 3 12 2 | 1 3 0 60 1 0 0 0 : 12 32 0 0 1 ");
         leftOut("Glb0v012t60m0m0", 1, "1 60 0 1 1 0 1 0 1 0 3 12 2 | 0 3 0 60 1 0 0 0 ");
     }
 

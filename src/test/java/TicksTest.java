@@ -267,7 +267,7 @@ final class TicksTest {
                 + "| 1 4 4 40 1 0 0 0 : 2 22 0 0 1 | 1 0 0 48 1 0 9 1 : 12 19 1 0 0 ");
         Due.is("run(20)", 1, () -> x.run(20));
         Due.same("three lanes", Due.whole(x), "3 48 1 2 3 0 1 1 2 1 3 12 2 | 0 0 0 40 0 0 0 0 "
-                + "| 0 0 0 40 1 0 0 0 | 1 3 0 60 1 1 0 0 : 12 33 1 0 1 ".replace("12 33", "12 33"));
+                + "| 0 0 0 40 1 0 0 0 | 1 3 0 60 1 1 0 0 : 12 33 1 0 1 ");
     }
 
     private static void promise6() {
@@ -285,8 +285,8 @@ final class TicksTest {
     }
 
     private static void promise7() {
-        LorryArms x = gate("b0v002v004v004v012t29");
-        int[] want = {4, 4, 3, 40, 1, 0, 1, 3};
+        LorryArms x = gate("b0v002v004v004v012t28");
+        int[] want = {4, 4, 4, 40, 1, 0, 2, 3};
         for (int i = 0; i < want.length; i++) {
             int what = i;
             Due.is("laneOf(0, " + i + ")", want[i], () -> x.laneOf(0, what));
@@ -306,7 +306,7 @@ final class TicksTest {
 
     private static void promise8() {
         LorryArms x = gate("v012xfv002xv005fv003t22");
-        int[][] want = {{12, 19, 1, 1, 0}, {2, 7, 1, 0, 0}, {5, 4, 0, 1, 0}, {3, -2, 0, 0, 0}};
+        int[][] want = {{12, 19, 1, 1, 0}, {2, 7, 1, 0, 0}, {5, 5, 0, 1, 0}, {3, -1, 0, 0, 0}};
         for (int k = 0; k < want.length; k++) {
             for (int i = 0; i < 5; i++) {
                 int car = k;
