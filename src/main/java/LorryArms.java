@@ -98,7 +98,7 @@ public final class LorryArms {
             return 0;
         }
         int at = 1;
-        while (at < textLength) {
+        for (int i = 0; i < MOST_SIGNS && at < textLength; i++) {
             int wrong = wrongSignOf(at);
             if (wrong != NONE) {
                 return wrong;
@@ -118,17 +118,22 @@ public final class LorryArms {
             saved[i] = false;
         }
         int leftOut = 0;
-        for (int at = 1; at < textLength; at += commandLength(at)) {
+        int at = 1;
+        for (int i = 0; i < MOST_SIGNS && at < textLength; i++) {
             if (!doCommand(at)) {
                 leftOut++;
             }
+            at += commandLength(at);
         }
         return leftOut;
     }
 
     /** NONE behind the end of the text: as a sign that no rule allows, it makes the end the error position. */
     private int signAt(int at) {
-        return at >= 0 && at < textLength && at < MOST_SIGNS ? text[at] : NONE;
+        if (at < 0 || at >= textLength || at >= MOST_SIGNS) {
+            return NONE;
+        }
+        return text[at];
     }
 
     private int digitAt(int at) {
@@ -196,9 +201,8 @@ public final class LorryArms {
         return value >= least && value <= most;
     }
 
-    /** At least 1, so that a walk over the text always ends. */
     private int commandLength(int at) {
-        int length = Math.max(1, fixedLength(signAt(at)));
+        int length = fixedLength(signAt(at));
         if (signAt(at) != 'v') {
             return length;
         }
@@ -400,7 +404,7 @@ public final class LorryArms {
             if (lane.vehicles == 0) {
                 return t;
             }
-            copy.tickLane(l);
+            lane.tick(copy.settings);
         }
         return NONE;
     }
@@ -438,7 +442,7 @@ public final class LorryArms {
         copy.copyFrom(present);
         int up = 0;
         for (int t = 0; t < n; t++) {
-            copy.tick();
+            copy.letTicksGo(1);
             up += copy.armsUp();
         }
         switch (what) {
@@ -462,7 +466,7 @@ public final class LorryArms {
         Lane lane = copy.lanes[l];
         int before = lane.hits;
         for (int t = 1; t <= MOST_AHEAD; t++) {
-            copy.tickLane(l);
+            lane.tick(copy.settings);
             if (lane.hits > before) {
                 return t;
             }
@@ -479,7 +483,7 @@ public final class LorryArms {
             if (lane.hasGoneThrough(passedAndK - lane.passed)) {
                 return t;
             }
-            copy.tickLane(l);
+            lane.tick(copy.settings);
         }
         return NONE;
     }
@@ -678,7 +682,10 @@ public final class LorryArms {
                 return false;
             }
             for (int t = 0; t < n; t++) {
-                tick();
+                ticks++;
+                for (int l = 0; l < laneCount; l++) {
+                    lanes[l].tick(settings);
+                }
             }
             return true;
         }
@@ -689,20 +696,6 @@ public final class LorryArms {
             }
             settings[what] = v;
             return true;
-        }
-
-        void tick() {
-            ticks++;
-            for (int l = 0; l < laneCount; l++) {
-                tickLane(l);
-            }
-        }
-
-        /** No lane depends on another one: what would be in one lane needs the ticks of that lane alone. */
-        void tickLane(int l) {
-            if (hasLane(l)) {
-                lanes[l].tick(settings[CHECK_TICKS], settings[LOST_CHECK_TICKS], settings[ADDED_HOLD]);
-            }
         }
 
         int total(int what) {
@@ -811,10 +804,13 @@ public final class LorryArms {
             return true;
         }
 
-        void tick(int checkTicks, int lostCheckTicks, int addedHold) {
+        /** No lane depends on another one: what would be in a lane needs the ticks of that lane alone. */
+        void tick(int[] settings) {
             moveVehicles();
-            checkTicket(checkTicks, lostCheckTicks, addedHold);
-            moveArm();
+            checkTicket(settings[CHECK_TICKS], settings[LOST_CHECK_TICKS], settings[ADDED_HOLD]);
+            if (!armBroken) {
+                moveArm(reason() != 0);
+            }
             hitIfUnderArm();
             countThrough();
         }
@@ -873,11 +869,8 @@ public final class LorryArms {
             return NONE;
         }
 
-        private void moveArm() {
-            if (armBroken) {
-                return;
-            }
-            height = reason() != 0 ? Math.min(FULL_HEIGHT, height + 1) : Math.max(0, height - 1);
+        private void moveArm(boolean up) {
+            height = up ? Math.min(FULL_HEIGHT, height + 1) : Math.max(0, height - 1);
             if (height == FULL_HEIGHT) {
                 hold = Math.max(0, hold - 1);
             }

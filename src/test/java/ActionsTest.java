@@ -130,6 +130,11 @@ final class ActionsTest {
         Due.is("run(60)", 1, () -> x.run(60));
         Due.is("about(1)", 88, () -> x.about(1));
         Due.is("about(3)", 3, () -> x.about(3));
+        // What went through and slipped through before does not count.
+        x.arrive(0, 2, false, false);
+        x.arrive(0, 2, false, true);
+        Due.is("run(60) of the next ones", 2, () -> x.run(60));
+        Due.is("run(60) of none", 0, () -> x.run(60));
         LorryArms y = new LorryArms();
         Due.is("run(60) without lanes", 0, () -> y.run(60));
         Due.is("run(1)", 0, () -> y.run(1));

@@ -172,6 +172,11 @@ final class CopiesTest {
         good("Glv002v002ft30", 80001);
         bad("Glv002v002ft30", 80000);
         good("Glv002v002ft29", 80000);
+        String ten = "Glv002v002fv002fv002fv002fv002ft60v002v002fv002fv002fv002fv002ft60";
+        good(ten, 80010);
+        bad(ten, 80009);
+        good(ten + "v002v002ft60", 80011);
+        bad(ten + "v002v002ft60", 80010);
         good(HIT, 90004);
         bad(HIT, 90000);
         good(HIT, 91000);

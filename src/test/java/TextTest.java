@@ -212,6 +212,19 @@ final class TextTest {
         x.run(1);
         Due.is("undo()", 0, x::undo);
         Due.is("about(1)", 2, () -> x.about(1));
+        // Of a lane with everything in it, and of one with a hold and a check, nothing is left.
+        LorryArms y = Due.loaded("Gllv002xv002fb0v012v003fv005t60t60v102xt28");
+        Due.same("a used gate", Due.whole(y), "2 148 3 3 2 1 1 1 1 1 3 12 2 "
+                + "| 2 3 8 54 1 1 0 1 : 3 19 0 1 1 : 5 16 0 0 0 | 1 0 0 48 0 0 9 1 : 2 19 1 0 0 ");
+        Due.write(y, "Gll");
+        Due.is("load()", 0, y::load);
+        String two = "2 0 0 0 0 0 0 0 0 0 3 12 2 | 0 0 0 48 0 0 0 0 | 0 0 0 48 0 0 0 0 ";
+        Due.same("two new lanes", Due.whole(y), two);
+        // A check that had gone on in the lane that was there before is no part of a new one's check.
+        LorryArms z = Due.loaded("Gllv002xv102xt22");
+        Due.write(z, "Gll");
+        Due.is("load()", 0, z::load);
+        Due.same("two new lanes", Due.whole(z), two);
     }
 
     private static void promise5Throws() {

@@ -7,6 +7,7 @@ final class TicksTest {
         followerWaitsForTheArm();
         followerThatIsLet();
         armComesDown();
+        armComesDownOnAFront();
         loopHoldsTheArm();
         brokenArmStays();
         heldWhileBroken();
@@ -145,6 +146,21 @@ final class TicksTest {
         lane(x, "3 0 60 0 0");
         Due.is("about(4)", 1, () -> x.about(4));
         Due.is("about(6)", 1, () -> x.about(6));
+    }
+
+    /** The hold ends in the tick in which a follower moves on: the arm comes down on its first cell. */
+    private static void armComesDownOnAFront() {
+        LorryArms x = gate("b0v002t12v002ft20");
+        front(x, 1, 19);
+        lane(x, "4 0 40 1 1");
+        x.run(1);
+        front(x, 1, 20);
+        lane(x, "3 0 40 0 0");
+        Due.is("about(6)", 1, () -> x.about(6));
+        Due.notNow("mend(0)", () -> x.mend(0));
+        Due.is("run(2)", 1, () -> x.run(2));
+        Due.is("about(5)", 1, () -> x.about(5));
+        Due.is("mend(0)", 3, () -> x.mend(0));
     }
 
     private static void loopHoldsTheArm() {
