@@ -648,7 +648,7 @@ public final class LorryArms {
             if (laneCount >= MOST_LANES) {
                 return false;
             }
-            // The row may hold a lane that was there before an undo, a load or a restore.
+            // The row may still hold a lane that was there before a load.
             lanes[laneCount].clear();
             laneCount++;
             return true;
