@@ -15,31 +15,16 @@ final class AheadTest {
 
     public static void main(String[] args) {
         promise18();
-        promise18Far();
         promise19();
-        promise19Far();
         promise20();
-        promise20Far();
         promise21();
         promise21Counts();
         promise22();
-        promise22Far();
         for (String gate : GATES) {
             changeNothing(gate);
             comesTrue(gate);
         }
         Due.end("AheadTest");
-    }
-
-    private static LorryArms slowLane(boolean loopBroken) {
-        LorryArms x = new LorryArms();
-        x.lane();
-        x.set(1, 60);
-        x.loop(0, loopBroken);
-        for (int i = 0; i < 6; i++) {
-            x.arrive(0, i < 5 ? 4 : 12, true, false);
-        }
-        return x;
     }
 
     private static void promise18() {
@@ -54,26 +39,6 @@ final class AheadTest {
         Due.outside("emptyIn(least)", () -> x.emptyIn(Integer.MIN_VALUE));
         LorryArms y = Due.loaded("Glb0v012v002t60");
         Due.is("emptyIn(0) with a broken arm", -1, () -> y.emptyIn(0));
-    }
-
-    /** The lane is empty behind 400 ticks, or behind 401: ticks are let go by until it is so. */
-    private static void promise18Far() {
-        LorryArms x = slowLane(false);
-        int end = 0;
-        while (x.laneOf(0, 0) > 0 && end < 1000) {
-            x.run(1);
-            end++;
-        }
-        LorryArms y = slowLane(false);
-        for (int t = 0; t <= end; t++) {
-            int left = end - t;
-            if (left > 395 && left < 405 || left < 3) {
-                Due.is("emptyIn(0) with " + left + " left", left > 400 ? -1 : left, () -> y.emptyIn(0));
-            }
-            y.run(1);
-        }
-        int all = end;
-        Due.is("the far lane is far enough", 1, () -> all > 405 && all < 1000 ? 1 : 0);
     }
 
     private static void promise19() {
@@ -94,26 +59,6 @@ final class AheadTest {
         LorryArms y = Due.loaded("Glb0v012v002t33");
         Due.is("throughIn(0, 0) under a broken arm", 5, () -> y.throughIn(0, 0));
         Due.is("throughIn(0, 1) behind a broken arm", -1, () -> y.throughIn(0, 1));
-    }
-
-    private static void promise19Far() {
-        LorryArms x = slowLane(false);
-        int end = 0;
-        while (x.about(4) < 6 && end < 1000) {
-            x.run(1);
-            end++;
-        }
-        LorryArms y = slowLane(false);
-        for (int t = 0; t < end; t++) {
-            int left = end - t;
-            if (left > 395 && left < 405 || left < 3) {
-                Due.is("throughIn with " + left + " left", left > 400 ? -1 : left,
-                        () -> y.throughIn(0, y.laneOf(0, 0) - 1));
-            }
-            y.run(1);
-        }
-        int all = end;
-        Due.is("the far vehicle is far enough", 1, () -> all > 405 && all < 1000 ? 1 : 0);
     }
 
     private static void promise20() {
@@ -146,36 +91,6 @@ final class AheadTest {
         Due.is("bestLane(5) of a full and a broken lane", -1, () -> w.bestLane(5));
         w.mend(1);
         Due.is("bestLane(5) of a full lane", 1, () -> w.bestLane(5));
-    }
-
-    private static void promise20Far() {
-        LorryArms x = new LorryArms();
-        x.lane();
-        x.set(1, 60);
-        for (int i = 0; i < 5; i++) {
-            x.arrive(0, 12, true, false);
-        }
-        x.set(0, 20);
-        int seen = 0;
-        for (int t = 0; t < 40; t++) {
-            LorryArms y = new LorryArms();
-            y.lane();
-            y.set(1, 60);
-            for (int i = 0; i < 5; i++) {
-                y.arrive(0, 12, true, false);
-            }
-            y.set(0, 20);
-            for (int i = 0; i < t; i++) {
-                y.run(1);
-            }
-            y.arrive(0, 7, false, false);
-            int due = y.throughIn(0, 5) >= 0 ? 0 : -1;
-            seen |= due == 0 ? 1 : 2;
-            Due.is("bestLane(7) at " + t, due, () -> x.bestLane(7));
-            x.run(1);
-        }
-        int both = seen;
-        Due.is("vehicles within 400 ticks and beyond", 3, () -> both);
     }
 
     private static void promise21() {
@@ -245,25 +160,6 @@ final class AheadTest {
         Due.is("hitsIn(1)", -1, () -> v.hitsIn(1));
     }
 
-    private static void promise22Far() {
-        LorryArms x = slowLane(true);
-        int end = 0;
-        while (x.about(6) == 0 && end < 1000) {
-            x.run(1);
-            end++;
-        }
-        LorryArms y = slowLane(true);
-        for (int t = 0; t < end; t++) {
-            int left = end - t;
-            if (left > 395 && left < 405 || left < 3) {
-                Due.is("hitsIn(0) with " + left + " left", left > 400 ? -1 : left, () -> y.hitsIn(0));
-            }
-            y.run(1);
-        }
-        int all = end;
-        Due.is("the far hit is far enough", 1, () -> all > 405 && all < 1000 ? 1 : 0);
-    }
-
     private static void changeNothing(String gate) {
         LorryArms x = Due.loaded(gate);
         x.run(13);
@@ -284,60 +180,65 @@ final class AheadTest {
         Due.is("undo()", 0, x::undo);
     }
 
-    /** Tick by tick for 100 ticks: the lane is empty, and each vehicle through, when it was said. */
+    /** Tick by tick: the lane is empty, each vehicle through, and the arm on one, when it was said. */
     private static void comesTrue(String gate) {
         for (int from = 0; from < 60; from += 7) {
-            LorryArms x = Due.loaded(gate);
-            for (int t = 0; t < from; t++) {
-                x.run(1);
-            }
+            Due.Walk walk = walk(gate, from);
+            LorryArms x = walk.at(0);
+            int lanes = x.about(0);
             int[] said = new int[5];
             for (int i = 0; i < 5; i++) {
                 said[i] = x.coming(100, i);
             }
             int[] had = {x.about(4), x.about(5), x.about(6)};
-            for (int l = 0; l < x.about(0); l++) {
-                oneLane(gate, from, l);
-            }
             int up = 0;
-            for (int t = 0; t < 100; t++) {
-                x.run(1);
-                for (int l = 0; l < x.about(0); l++) {
-                    up += x.laneOf(l, 1) == 4 ? 1 : 0;
+            for (int t = 1; t <= 100; t++) {
+                for (int l = 0; l < lanes; l++) {
+                    up += walk.at(t).laneOf(l, 1) == 4 ? 1 : 0;
                 }
             }
-            int[] came = {x.about(4) - had[0], x.about(5) - had[1], x.about(6) - had[2], x.about(2), up};
+            LorryArms then = walk.at(100);
+            int[] came = {then.about(4) - had[0], then.about(5) - had[1], then.about(6) - had[2], then.about(2), up};
             for (int i = 0; i < 5; i++) {
                 int due = came[i];
                 int is = said[i];
                 Due.is("coming(100, " + i + ") at " + from + " of " + gate, due, () -> is);
             }
+            for (int l = 0; l < lanes; l++) {
+                oneLane(gate, from, l);
+            }
         }
     }
 
+    private static Due.Walk walk(String gate, int from) {
+        return new Due.Walk(() -> {
+            LorryArms x = Due.loaded(gate);
+            Due.go(x, from);
+            return x;
+        });
+    }
+
     private static void oneLane(String gate, int from, int l) {
-        LorryArms x = Due.loaded(gate);
-        for (int t = 0; t < from; t++) {
-            x.run(1);
-        }
-        int empty = x.emptyIn(l);
-        int hits = x.hitsIn(l);
-        int count = x.laneOf(l, 0);
+        Due.Walk walk = walk(gate, from);
+        LorryArms now = walk.at(0);
+        int empty = now.emptyIn(l);
+        int hits = now.hitsIn(l);
+        int count = now.laneOf(l, 0);
         int[] through = new int[count];
         for (int k = 0; k < count; k++) {
-            through[k] = x.throughIn(l, k);
+            through[k] = now.throughIn(l, k);
         }
         int emptyAt = -1;
         int[] throughAt = new int[count];
         java.util.Arrays.fill(throughAt, -1);
         for (int t = 0; t <= 400; t++) {
+            LorryArms x = walk.at(t);
             int gone = count - x.laneOf(l, 0);
             emptyAt = emptyAt < 0 && gone == count ? t : emptyAt;
             for (int k = 0; k < count; k++) {
                 boolean is = k < gone || x.vehicle(l, k - gone, 1) - x.vehicle(l, k - gone, 0) + 1 >= 21;
                 throughAt[k] = throughAt[k] < 0 && is ? t : throughAt[k];
             }
-            x.run(1);
         }
         int due = emptyAt;
         Due.is("emptyIn(" + l + ") at " + from + " of " + gate, due, () -> empty);
@@ -351,17 +252,17 @@ final class AheadTest {
     }
 
     private static int hitAt(String gate, int from, int l) {
-        LorryArms x = Due.loaded(gate);
-        for (int t = 0; t < from; t++) {
-            x.run(1);
-        }
-        x.loop(l, true);
-        if (x.laneOf(l, 5) == 1) {
+        Due.Walk walk = new Due.Walk(() -> {
+            LorryArms x = Due.loaded(gate);
+            Due.go(x, from);
+            x.loop(l, true);
+            return x;
+        });
+        if (walk.at(0).laneOf(l, 5) == 1) {
             return -1;
         }
         for (int t = 1; t <= 400; t++) {
-            x.run(1);
-            if (x.laneOf(l, 5) == 1) {
+            if (walk.at(t).laneOf(l, 5) == 1) {
                 return t;
             }
         }

@@ -4,8 +4,41 @@ final class Due {
         long answer();
     }
 
+    interface Maker {
+        LorryArms make();
+    }
+
+    /** A gate tick by tick. A new object is made every few ticks, as the document promises 512 calls of each. */
+    static final class Walk {
+        private static final int STEPS = 8;
+
+        private final Maker maker;
+        private LorryArms x;
+        private int made;
+        private int tick;
+
+        Walk(Maker maker) {
+            this.maker = maker;
+        }
+
+        /** The gate when so many ticks have gone by, not fewer than asked for before. */
+        LorryArms at(int t) {
+            if (x == null || t >= made + STEPS) {
+                x = maker.make();
+                go(x, t);
+                made = t;
+                tick = t;
+            }
+            for (; tick < t; tick++) {
+                x.run(1);
+            }
+            return x;
+        }
+    }
+
     private static int asked = 0;
     private static int wrong = 0;
+    private static String sentence = "";
 
     private Due() {
     }
@@ -19,11 +52,16 @@ final class Due {
         }
     }
 
+    /** The sentence of the document that the next answers are due by; it is told with those that are wrong. */
+    static void by(String words) {
+        sentence = " by: " + words;
+    }
+
     static void same(String what, String got, String want) {
         asked++;
         if (!got.equals(want)) {
             wrong++;
-            System.out.println(what + " answered " + got + ", due is " + want);
+            System.out.println(what + " answered " + got + ", due is " + want + sentence);
         }
     }
 
@@ -78,6 +116,19 @@ final class Due {
         LorryArms x = new LorryArms();
         write(x, text);
         x.load();
+        return x;
+    }
+
+    static void go(LorryArms x, int ticks) {
+        for (int left = ticks; left > 0; left -= 60) {
+            x.run(Math.min(60, left));
+        }
+    }
+
+    /** A gate as the text makes it, when so many ticks have gone by. */
+    static LorryArms at(int tick, String text) {
+        LorryArms x = loaded(text);
+        go(x, tick - x.about(1));
         return x;
     }
 

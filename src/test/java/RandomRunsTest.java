@@ -52,7 +52,7 @@ final class RandomRunsTest {
     }
 
     private int lane() {
-        return random.nextInt(20) == 0 ? in(0, 2) : random.nextInt(Math.max(1, x.about(0)));
+        return random.nextInt(20) == 0 ? in(0, 2) : random.nextInt(Math.max(1, y.about(0)));
     }
 
     private void text() {
@@ -229,7 +229,7 @@ final class RandomRunsTest {
     }
 
     private String drawnGroup() {
-        int l = random.nextInt(8) == 0 ? random.nextInt(10) : random.nextInt(Math.max(1, x.about(0)));
+        int l = random.nextInt(8) == 0 ? random.nextInt(10) : random.nextInt(Math.max(1, y.about(0)));
         switch (random.nextInt(10)) {
             case 0:
             case 1:
